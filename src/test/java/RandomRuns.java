@@ -38,29 +38,121 @@ public final class RandomRuns {
 
     private void run() {
         text(0, SIGNATURES[random.nextInt(SIGNATURES.length)]);
-        int rules = random.nextInt(5);
-        for (int i = 0; i < 4 + random.nextInt(5); i++) {
-            text(1, make(1 + random.nextInt(size), model.variables.size()));
+        int rules = random.nextInt(6);
+        for (int i = 0; i < 2 + random.nextInt(4); i++) {
+            text(1, make(1 + random.nextInt(size), 3, 3));
+        }
+        for (int i = 0; i < 2 + random.nextInt(5); i++) {
+            text(1, make(1 + random.nextInt(2 * size), 3, 12));
+        }
+        for (int i = 0; i < 3 && !model.told.isEmpty(); i++) {
+            text(1, loosen(model.told.get(random.nextInt(model.told.size())), 0));
         }
         for (int i = 0; i < rules; i++) {
-            text(2, make(1 + random.nextInt(4), 3) + "=" + make(1 + random.nextInt(3), 3));
+            String left = make(2 + random.nextInt(4), 3, 2);
+            if (!model.told.isEmpty() && random.nextBoolean()) {
+                List<Model.T> places = model.told.get(random.nextInt(model.told.size())).places();
+                left = loosen(places.get(random.nextInt(places.size())), 0);
+            }
+            text(2, left + "=" + fitting(left));
         }
         for (int i = 0; i < 60 && Check.wrong() == 0; i++) {
             call();
+        }
+        for (int t = 0; t < model.told.size() && Check.wrong() == 0; t++) {
+            allMatches(t);
+            allSteps(t);
         }
         if (Check.wrong() != 0) {
             log.forEach(System.out::println);
         }
     }
 
-    /** A term's text with some n names in it. */
-    private String make(int n, int vars) {
+    /** The text of a term that has variables where a given one has something, or some parts of a sum. */
+    private String loosen(Model.T t, int depth) {
+        if (!model.variables.isEmpty() && random.nextInt(depth == 0 ? 20 : 3) == 0) {
+            return model.variables.get(random.nextInt(Math.min(4, model.variables.size())));
+        }
+        if (t.variable >= 0 || t.parts.isEmpty()) {
+            return model.spell(t);
+        }
+        List<String> parts = new ArrayList<>();
+        boolean sum = model.kinds.get(t.op) == 2;
+        for (Model.T p : t.parts) {
+            if (!sum || random.nextInt(3) > 0) {
+                parts.add(loosen(p, depth + 1));
+            }
+        }
+        while (sum && (parts.size() < 2 || parts.size() < 6 && random.nextInt(3) == 0)) {
+            parts.add(make(1, 4, 2));
+        }
+        return model.names.get(t.op) + "(" + String.join(",", parts) + ")";
+    }
+
+    /** A term's text whose variables mostly stand in another's. */
+    private String fitting(String left) {
+        String right = make(1 + random.nextInt(4), 3, 2);
+        for (int i = 0; i < 6; i++) {
+            boolean fits = true;
+            for (String v : model.variables) {
+                fits &= !right.matches("(.*[^a-z])?" + v + "([^a-z].*)?") || left.matches("(.*[^a-z])?" + v + "([^a-z].*)?");
+            }
+            if (fits) {
+                break;
+            }
+            right = make(1 + random.nextInt(4), 3, 2);
+        }
+        return right;
+    }
+
+    private void allMatches(int t) {
+        for (int p = 0; p < model.told.size() && Check.wrong() == 0; p++) {
+            int pattern = p;
+            same("matches " + p + " " + t, () -> model.matches(pattern, t), () -> program.matches(pattern, t));
+            model.budget = 400000;
+            List<java.util.Map<Integer, Model.T>> all = null;
+            try {
+                all = model.matchList(model.told.get(p), model.told.get(t));
+            } catch (Model.Weary e) {
+                continue;
+            }
+            for (int k = 0; all != null && k < all.size(); k++) {
+                for (int v : all.get(k).keySet()) {
+                    int m = k;
+                    String got = Check.show(program, () -> program.bound(pattern, t, m, v));
+                    Check.due("bound " + p + " " + t + " " + k + " " + v, got, model.spell(all.get(k).get(v)));
+                }
+            }
+        }
+    }
+
+    private void allSteps(int t) {
+        same("steps " + t, () -> model.steps(t), () -> program.steps(t));
+        model.budget = 400000;
+        java.util.Set<Model.Step> all;
+        try {
+            all = model.stepSet(model.told.get(t), model.on, 20);
+        } catch (Model.Weary e) {
+            return;
+        }
+        int k = 0;
+        for (Model.Step s : all == null ? List.<Model.Step>of() : all) {
+            int m = k++;
+            String got = Check.show(program, () -> program.step(t, m));
+            Check.due("step " + t + " " + m, got, model.spell(s.behind()));
+            Check.due("place of step " + t + " " + m, Check.answer(() -> program.stepAt(t, m, 0)), s.place());
+            Check.due("rule of step " + t + " " + m, Check.answer(() -> program.stepAt(t, m, 1)), s.rule());
+        }
+    }
+
+    /** A term's text with some n names in it, a variable in one of so many. */
+    private String make(int n, int vars, int seldom) {
         int some = Math.min(vars, model.variables.size());
         if (model.names.isEmpty()) {
             return "a";
         }
         if (n <= 1) {
-            if (some > 0 && random.nextInt(3) == 0) {
+            if (some > 0 && random.nextInt(seldom) == 0) {
                 return model.variables.get(random.nextInt(some));
             }
             for (int i = 0; i < 30; i++) {
@@ -72,16 +164,19 @@ public final class RandomRuns {
             return "a";
         }
         int op = random.nextInt(model.names.size());
+        for (int i = 0; i < 3 && (model.arities.get(op) == 0 || model.kinds.get(op) == 0 && random.nextBoolean()); i++) {
+            op = random.nextInt(model.names.size());
+        }
         int parts = model.arities.get(op);
         if (model.kinds.get(op) == 2) {
-            parts = 2 + random.nextInt(random.nextInt(8) == 0 ? 8 : 3);
+            parts = 2 + random.nextInt(random.nextInt(8) == 0 ? 8 : Math.min(5, n));
         }
         if (parts == 0) {
             return model.names.get(op);
         }
         StringBuilder text = new StringBuilder(model.names.get(op)).append('(');
         for (int i = 0; i < parts; i++) {
-            text.append(i > 0 ? "," : "").append(make(Math.max(1, (n - 1) / parts + random.nextInt(2)), vars));
+            text.append(i > 0 ? "," : "").append(make(Math.max(1, (n - 1) / parts + random.nextInt(2)), vars, seldom));
         }
         return text.append(')').toString();
     }
@@ -148,7 +243,7 @@ public final class RandomRuns {
 
     private void same(String name, Callable<Object> theirs, Callable<Object> ours) {
         log.add(name);
-        model.budget = 300000;
+        model.budget = 400000;
         String want = Check.answer(theirs);
         String got = Check.answer(ours);
         if (!want.equals("throws.Weary")) {
@@ -162,7 +257,7 @@ public final class RandomRuns {
 
     private void sameShown(String name, Callable<Object> theirs, Callable<Object> ours) {
         log.add(name);
-        model.budget = 300000;
+        model.budget = 400000;
         String want = Check.answer(theirs);
         String got = Check.show(program, ours);
         if (!want.equals("throws.Weary")) {

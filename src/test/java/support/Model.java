@@ -439,17 +439,29 @@ final class Model {
             }
         }
         List<T> candidates = candidates(target);
+        List<int[]> weights = new ArrayList<>();
+        for (T c : candidates) {
+            weights.add(lasting(c));
+        }
+        int[] room = lasting(target);
+        int[] own = lasting(pattern);
+        for (int i = 5; i < own.length; i++) {
+            room[i] -= own[i];
+            if (room[i] < 0) {
+                return new ArrayList<>();
+            }
+        }
         List<Map<Integer, T>> found = new ArrayList<>();
-        boolean few = search(pattern, target, vs, 0, candidates, new LinkedHashMap<>(), found);
+        boolean few = search(pattern, target, vs, candidates, weights, room, new LinkedHashMap<>(), found);
         return few ? found : null;
     }
 
-    private boolean search(T pattern, T target, List<Integer> vs, int i, List<T> candidates,
-            Map<Integer, T> now, List<Map<Integer, T>> found) {
-        if (i == vs.size()) {
-            if (--budget < 0) {
-                throw new Weary();
-            }
+    private boolean search(T pattern, T target, List<Integer> vs, List<T> candidates, List<int[]> weights,
+            int[] room, Map<Integer, T> now, List<Map<Integer, T>> found) {
+        if (--budget < 0) {
+            throw new Weary();
+        }
+        if (now.size() == vs.size()) {
             if (put(pattern, now).same(target)) {
                 if (found.size() == 300) {
                     return false;
@@ -458,24 +470,32 @@ final class Model {
             }
             return true;
         }
-        for (T c : candidates) {
-            now.put(vs.get(i), c);
-            if (leastSize(pattern, now, vs, i) <= target.size()
-                    && !search(pattern, target, vs, i + 1, candidates, now, found)) {
+        int v = vs.get(now.size());
+        int times = lasting(pattern)[v];
+        for (int c = 0; c < candidates.size(); c++) {
+            int[] left = room.clone();
+            boolean fits = true;
+            for (int i = 0; i < left.length; i++) {
+                left[i] -= times * weights.get(c)[i];
+                fits &= left[i] >= 0;
+            }
+            now.put(v, candidates.get(c));
+            if (fits && !search(pattern, target, vs, candidates, weights, left, now, found)) {
                 return false;
             }
-            now.remove(vs.get(i));
+            now.remove(v);
         }
         return true;
     }
 
-    /** What is put in comes into the term whole, but for units and the head of a sum: less than that is too little. */
-    private int leastSize(T pattern, Map<Integer, T> now, List<Integer> vs, int i) {
-        int n = 0;
-        for (T p : pattern.places()) {
-            T by = p.variable >= 0 ? now.get(p.variable) : null;
-            if (by != null && by.size() > 1) {
-                n += by.size() - 1;
+    /** How often variables, and operators that are neither ac nor units, stand in a term: none of these goes lost. */
+    private int[] lasting(T t) {
+        int[] n = new int[15];
+        for (T p : t.places()) {
+            if (p.variable >= 0) {
+                n[p.variable]++;
+            } else if (kinds.get(p.op) != 2 && !units.contains(p.op)) {
+                n[5 + p.op]++;
             }
         }
         return n;
