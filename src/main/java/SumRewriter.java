@@ -719,6 +719,8 @@ public final class SumRewriter {
         private final int[] variableNames = new int[VARIABLES];
         private int operators;
         private int variables;
+        /** What never goes lost as terms are put together: variables, then operators, neither sums nor units. */
+        private int lastingBits;
 
         void takeOver(Signature other) {
             System.arraycopy(other.names, 0, names, 0, OPERATORS);
@@ -728,12 +730,14 @@ public final class SumRewriter {
             System.arraycopy(other.variableNames, 0, variableNames, 0, VARIABLES);
             operators = other.operators;
             variables = other.variables;
+            lastingBits = other.lastingBits;
         }
 
         /** Whether the text is a signature; if not, the scanner stands at its fault. */
         boolean read(Scanner in) {
             operators = 0;
             variables = 0;
+            lastingBits = (1 << VARIABLES) - 1;
             for (int i = 0; i < TAPE; i++) {
                 if (in.sort == Scanner.END) {
                     return true;
@@ -806,6 +810,8 @@ public final class SumRewriter {
                 kinds[operators] = kind;
                 parts[operators] = n;
                 units[operators] = unit;
+                lastingBits |= kind == SUM ? 0 : 1 << VARIABLES + operators;
+                lastingBits &= unit < 0 ? -1 : ~(1 << VARIABLES + unit);
                 operators++;
             }
         }
@@ -1139,6 +1145,9 @@ public final class SumRewriter {
         private static final int NODES = 1024;
         private static final int BUCKETS = 256;
 
+        private static final int FIELD = 6;
+        private static final int FIELDS = 10;
+
         private static final int LONE = 0;
         private static final int FLEXIBLE = 1;
         private static final int RIGID = 2;
@@ -1148,6 +1157,9 @@ public final class SumRewriter {
         private final int[] sizes = new int[NODES];
         private final int[] masks = new int[NODES];
         private final int[] parts = new int[NODES * PARTS];
+        /** How often variables and lasting operators stand in it: FIELD bits each, those of the rest in highs. */
+        private final long[] lows = new long[NODES];
+        private final long[] highs = new long[NODES];
         private final int[] hashes = new int[NODES];
         private final int[] nexts = new int[NODES];
         private final int[] buckets = new int[BUCKETS];
@@ -1190,6 +1202,14 @@ public final class SumRewriter {
 
         int maskOf(int id) {
             return id >= 0 && id < used && id < NODES ? masks[id] : 0;
+        }
+
+        long lowOf(int id) {
+            return id >= 0 && id < used && id < NODES ? lows[id] : 0;
+        }
+
+        long highOf(int id) {
+            return id >= 0 && id < used && id < NODES ? highs[id] : 0;
         }
 
         int partOf(int id, int i) {
@@ -1392,8 +1412,14 @@ public final class SumRewriter {
             hashes[id] = hash;
             nexts[id] = buckets[hash];
             buckets[hash] = id;
+            int head = code < FIRST_CODE ? code : VARIABLES + (code >> 3) - 1;
+            boolean lasting = (kinds.lastingBits >> head & 1) != 0;
+            lows[id] = lasting && head < FIELDS ? 1L << FIELD * head : 0;
+            highs[id] = lasting && head >= FIELDS ? 1L << FIELD * (head - FIELDS) : 0;
             for (int i = 0; i < n; i++) {
                 parts[id * PARTS + i] = line[i];
+                lows[id] += lows[line[i]];
+                highs[id] += highs[line[i]];
             }
             return id;
         }
@@ -1595,6 +1621,9 @@ public final class SumRewriter {
         /** The last branch has to tell its next way. */
         private static final int BACK = -2;
         private static final int ALL = (1 << PARTS) - 1;
+        /** The highest bit of each field of counts: it goes lost where a count would go below 0. */
+        private static final long GUARDS = 0x820820820820820L;
+        private static final long OPERATOR_FIELDS = -1L << Terms.FIELD * VARIABLES;
 
         private final Terms terms;
         private final int[] goalPatterns = new int[GOALS];
@@ -1611,6 +1640,8 @@ public final class SumRewriter {
         private final int[] branchUsed = new int[BRANCHES];
         private final int[] found = new int[(MATCHES + 1) * VARIABLES];
         private final int[] sorted = new int[MATCHES + 1];
+        private int wholePattern;
+        private int wholeTarget;
         private int goals;
         private int branches;
         private int boundVariables;
@@ -1628,7 +1659,9 @@ public final class SumRewriter {
             branches = 0;
             boundVariables = 0;
             tooMuch = false;
-            int goal = addGoal(pattern, ALL, target, MET);
+            wholePattern = pattern;
+            wholeTarget = target;
+            int goal = !fits(pattern, target) ? BACK : addGoal(pattern, ALL, target, MET);
             for (int i = 0; i < MOVES && !tooMuch; i++) {
                 if (goal >= 0 && goal < GOALS) {
                     goal = terms.kindAt(goalPatterns[goal]) == SUM ? meetSum(goal) : meetPlain(goal);
@@ -1673,6 +1706,24 @@ public final class SumRewriter {
             }
         }
 
+        /** Whether all that cannot go lost of a pattern, and of what is bound in it, is in the target. */
+        private boolean fits(int pattern, int target) {
+            long times = terms.lowOf(pattern);
+            long low = (terms.lowOf(target) | GUARDS) - (times & OPERATOR_FIELDS);
+            long high = (terms.highOf(target) | GUARDS) - terms.highOf(pattern);
+            for (int v = 0; v < VARIABLES; v++) {
+                boolean isBound = (boundVariables >> v & 1) != 0;
+                for (int n = (int) (times >> Terms.FIELD * v) & 31; isBound && n > 0; n--) {
+                    if ((low & high & GUARDS) != GUARDS) {
+                        return false;
+                    }
+                    low -= terms.lowOf(bindings[v]);
+                    high -= terms.highOf(bindings[v]);
+                }
+            }
+            return (low & high & GUARDS) == GUARDS;
+        }
+
         /** A variable, or a free or c operator. */
         private int meetPlain(int goal) {
             if (goal < 0 || goal >= GOALS) {
@@ -1689,7 +1740,7 @@ public final class SumRewriter {
             }
             if (code < FIRST_CODE) {
                 bind(code, target);
-                return goalNexts[goal];
+                return fits(wholePattern, wholeTarget) ? goalNexts[goal] : BACK;
             }
             if (terms.codeOf(target) != code) {
                 return BACK;
@@ -1786,7 +1837,7 @@ public final class SumRewriter {
             int best = NONE;
             int bestWorth = 0;
             for (int i = 0; i < PARTS; i++) {
-                int worth = (left >> i & 1) != 0 ? worthOf(pattern, left, terms.partOf(pattern, i)) : 0;
+                int worth = (left >> i & 1) != 0 ? worthOf(terms.partOf(pattern, i)) : 0;
                 if (worth > bestWorth) {
                     best = i;
                     bestWorth = worth;
@@ -1797,16 +1848,17 @@ public final class SumRewriter {
             addBranch(goal, best, rigid ? n : 1 << n);
         }
 
-        private int worthOf(int pattern, int left, int part) {
+        /** One part alone meets a rigid one; a variable that stands often can have few; the others follow. */
+        private int worthOf(int part) {
             int sort = terms.sortOf(part);
-            if (sort != Terms.LONE) {
-                return PARTS + sort;
+            if (sort == Terms.RIGID) {
+                return SIZE + 2;
             }
-            int times = 0;
-            for (int i = 0; i < PARTS; i++) {
-                times += (left >> i & 1) != 0 && terms.partOf(pattern, i) == part ? 1 : 0;
+            if (sort == Terms.FLEXIBLE) {
+                return 2;
             }
-            return times;
+            int times = (int) (terms.lowOf(wholePattern) >> Terms.FIELD * terms.codeOf(part)) & 31;
+            return times > 1 ? times + 1 : 1;
         }
 
         private void addBranch(int goal, int part, int ways) {
@@ -1891,15 +1943,15 @@ public final class SumRewriter {
                     rest = terms.without(target, operator, rest, sum);
                 }
             }
-            int next = rest < 0 ? BACK : remainder(goal, left, rest);
-            if (next == BACK) {
+            if (rest < 0 || sort != Terms.LONE && !fits(part, sum)) {
                 return BACK;
             }
             if (sort == Terms.LONE) {
                 bind(code, sum);
-                return next;
+                return fits(wholePattern, wholeTarget) ? remainder(goal, left, rest) : BACK;
             }
-            return addGoal(part, ALL, sum, next);
+            int next = remainder(goal, left, rest);
+            return next == BACK ? BACK : addGoal(part, ALL, sum, next);
         }
 
         /** Keeps what the variables have now, in its place by ORDER, if it was not met before. */
