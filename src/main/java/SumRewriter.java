@@ -1591,7 +1591,7 @@ public final class SumRewriter {
 
         private void closeLast(int operator) {
             opened--;
-            int base = bases[opened];
+            int base = opened >= 0 && opened < TAPE ? bases[opened] : 0;
             terms.begin(operator);
             for (int i = base; i < valued && i >= 0 && i < TAPE; i++) {
                 terms.lay(values[i]);
@@ -1645,8 +1645,8 @@ public final class SumRewriter {
         private int goals;
         private int branches;
         private int boundVariables;
+        /** How many are found; above MATCHES they are too many, and none is told. */
         private int used;
-        private boolean tooMuch;
 
         Matcher(Terms terms) {
             this.terms = terms;
@@ -1658,11 +1658,10 @@ public final class SumRewriter {
             goals = 0;
             branches = 0;
             boundVariables = 0;
-            tooMuch = false;
             wholePattern = pattern;
             wholeTarget = target;
             int goal = !fits(pattern, target) ? BACK : addGoal(pattern, ALL, target, MET);
-            for (int i = 0; i < MOVES && !tooMuch; i++) {
+            for (int i = 0; i < MOVES && used <= MATCHES; i++) {
                 if (goal >= 0 && goal < GOALS) {
                     goal = terms.kindAt(goalPatterns[goal]) == SUM ? meetSum(goal) : meetPlain(goal);
                 } else if (goal == MET) {
@@ -1863,7 +1862,7 @@ public final class SumRewriter {
 
         private void addBranch(int goal, int part, int ways) {
             if (branches < 0 || branches >= BRANCHES) {
-                tooMuch = true;
+                used = MATCHES + 1;
                 return;
             }
             branchGoals[branches] = goal;
@@ -1958,7 +1957,6 @@ public final class SumRewriter {
         private void record() {
             int slot = used;
             if (slot < 0 || slot > MATCHES) {
-                tooMuch = true;
                 return;
             }
             for (int v = 0; v < VARIABLES; v++) {
@@ -1979,7 +1977,7 @@ public final class SumRewriter {
                 }
             }
             if (used >= MATCHES) {
-                tooMuch = true;
+                used = MATCHES + 1;
                 return;
             }
             System.arraycopy(sorted, low, sorted, low + 1, used - low);
@@ -2080,9 +2078,7 @@ public final class SumRewriter {
             places = 0;
             int parent = NONE;
             for (int k = 0; k < most && k < SIZE; k++) {
-                while (parent >= 0 && parent < k && placeSeen[parent] >= partsIn(terms.codeOf(placeNodes[parent]))) {
-                    parent = placeParents[parent];
-                }
+                parent = awaiting(parent);
                 if (k > 0 && (parent < 0 || parent >= k)) {
                     return;
                 }
@@ -2096,6 +2092,18 @@ public final class SumRewriter {
                 parent = k;
                 places = k + 1;
             }
+        }
+
+        /** From a place upward the first one whose parts have not all been laid; NONE. */
+        private int awaiting(int from) {
+            int at = from;
+            for (int up = 0; up < SIZE && at >= 0 && at < SIZE; up++) {
+                if (placeSeen[at] < partsIn(terms.codeOf(placeNodes[at]))) {
+                    return at;
+                }
+                at = placeParents[at];
+            }
+            return NONE;
         }
 
         /** The bits of all parts, where a rule may take some of them; 0 where it takes the term alone; NONE. */

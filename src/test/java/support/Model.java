@@ -97,6 +97,7 @@ final class Model {
     }
 
     static final class Fault extends Exception {
+        private static final long serialVersionUID = 1;
         final int at;
 
         Fault(int at) {
@@ -118,6 +119,7 @@ final class Model {
     long budget = Long.MAX_VALUE;
 
     static final class Weary extends RuntimeException {
+        private static final long serialVersionUID = 1;
     }
 
     // ---- texts ----
