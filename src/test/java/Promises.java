@@ -514,8 +514,10 @@ public final class Promises {
         ask("pattern -1", () -> x.matches(-1, 0), INDEX);
         SumRewriter y = with("free a 0;free b 0;free d 0;free f 0;free e 0;c m;ac plus unit e;var x;var y;var z;var u;var w;",
                 "m(plus(x,y,z,u),w)", "m(plus(a,a,b,b),plus(a,a,a,b,b))", "m(plus(x,y,z),plus(u,w))",
-                "m(plus(a,a,a,b,d,f),e)", "plus(x,y,z,u,w)", "plus(a,a,b,d,e,f)", "plus(a,b,d)");
+                "m(plus(a,a,a,b,d,f),e)", "plus(x,y,z,u,w)", "plus(a,a,b,d,e,f)", "plus(a,b,d)",
+                "m(plus(u,y,x,z),plus(w,y))", "m(plus(f,f,f,f),plus(f,f,d,a,b))");
         ask("300 matches", () -> y.matches(0, 1), 300);
+        ask("301 matches", () -> y.matches(7, 8), STATE);
         ask("302 matches", () -> y.matches(2, 3), STATE);
         ask("many more", () -> y.matches(4, 5), STATE);
         ask("125 of them", () -> y.matches(4, 6), 125);
