@@ -229,6 +229,14 @@ public final class Promises {
         askText(x, "signature", "var x", ARGUMENT, 5);
         askText(x, "signature", "var x  ", ARGUMENT, 7);
         askText(x, "signature", "var", ARGUMENT, 3);
+        askText(x, "signature", "var ;", ARGUMENT, 4);
+        askText(x, "signature", "free;", ARGUMENT, 4);
+        askText(x, "signature", "c;", ARGUMENT, 1);
+        askText(x, "signature", "ac ;", ARGUMENT, 3);
+        askText(x, "signature", ";", ARGUMENT, 0);
+        askText(x, "signature", "free e 0;ac p foo e;", ARGUMENT, 14);
+        askText(x, "signature", "free e 0;ac p unit ;", ARGUMENT, 19);
+        askText(x, "signature", "fre", ARGUMENT, 0);
         askText(x, "signature", "Free a 0;", ARGUMENT, 0);
         askText(x, "signature", "varx;", ARGUMENT, 0);
     }
