@@ -57,8 +57,8 @@ public final class SumRewriter {
         spare = new Signature();
         terms = new Terms(current);
         reader = new Reader(scanner, current, terms);
-        told = new Rows(TERMS + 1);
-        sides = new Rows(2 * RULES + 2);
+        told = new Rows(TERMS);
+        sides = new Rows(2 * RULES);
         scratch = new Rows(1);
         shown = new Shown(current);
         matcher = new Matcher(terms);
