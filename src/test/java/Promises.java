@@ -2,8 +2,6 @@ import java.util.concurrent.Callable;
 
 /** For each promise of the document ordinary calls, the edges that it names, and wrong ones. */
 public final class Promises {
-    private static final String BASE =
-            "free a 0; free b 0; free e 0; free s 1; c m; ac plus unit e; ac un; var x; var y; var z;";
     private static final String INDEX = "throws.IndexOutOfBoundsException";
     private static final String ARGUMENT = "throws.IllegalArgumentException";
     private static final String STATE = "throws.IllegalStateException";
@@ -50,30 +48,6 @@ public final class Promises {
 
     // ---- helpers ----
 
-    private static SumRewriter with(String signature, String... terms) {
-        SumRewriter x = new SumRewriter();
-        String got = Check.signature(x, signature);
-        if (got.startsWith("throws")) {
-            Check.due("promise " + promise + ", signature " + signature, got, "a number");
-        }
-        for (String t : terms) {
-            String told = Check.term(x, t);
-            if (told.startsWith("throws")) {
-                Check.due("promise " + promise + ", term " + t, told, "a number");
-            }
-        }
-        return x;
-    }
-
-    private static void rules(SumRewriter x, String... rules) {
-        for (String r : rules) {
-            String told = Check.rule(x, r);
-            if (told.startsWith("throws")) {
-                Check.due("promise " + promise + ", rule " + r, told, "a number");
-            }
-        }
-    }
-
     private static void ask(String what, Callable<Object> call, Object want) {
         Check.ask("promise " + promise + ", " + what, call, want);
     }
@@ -87,15 +61,6 @@ public final class Promises {
         ask(sort + " " + text, () -> sort.equals("signature") ? x.signature() : sort.equals("term") ? x.term() : x.rule(), want);
         ask("fault of " + text, () -> x.fault(), fault);
         ask("the tape behind " + text, () -> x.end(1), false);
-    }
-
-    private static String times(String text, int n) {
-        return text.repeat(n);
-    }
-
-    /** s(s(..s(last)..)) with n times s. */
-    private static String deep(int n, String last) {
-        return times("s(", n) + last + times(")", n);
     }
 
     // ---- the promises ----
@@ -175,7 +140,7 @@ public final class Promises {
         SumRewriter x = new SumRewriter();
         askText(x, "signature", "", 0, -1);
         askText(x, "signature", " \t\n", 0, -1);
-        askText(x, "signature", BASE, 7, -1);
+        askText(x, "signature", Make.BASE, 7, -1);
         Check.term(x, "s(a)");
         Check.rule(x, "s(x)=x");
         x.show(0);
@@ -184,7 +149,7 @@ public final class Promises {
         ask("its terms stay", () -> x.count(2), 1);
         ask("its rules stay", () -> x.count(3), 1);
         askShown(x, "what is shown stays", () -> x.count(5), "s(a)");
-        askText(x, "signature", BASE, 7, -1);
+        askText(x, "signature", Make.BASE, 7, -1);
         ask("no terms", () -> x.count(2), 0);
         ask("no rules", () -> x.count(3), 0);
         ask("none on", () -> x.count(4), 0);
@@ -245,7 +210,7 @@ public final class Promises {
         promise = 5;
         SumRewriter x = new SumRewriter();
         askText(x, "term", "a", ARGUMENT, 0);
-        Check.signature(x, BASE);
+        Check.signature(x, Make.BASE);
         askText(x, "term", "plus(b,a)", 0, -1);
         askText(x, "term", " plus ( a\t,plus(\ne,b ) ) ", 0, -1);
         askText(x, "term", "x", 1, -1);
@@ -266,15 +231,15 @@ public final class Promises {
         askText(x, "term", "plus(a,a,a,a,a,a,a,a,a,a)", ARGUMENT, 22);
         askText(x, "term", "un(a,a,a,a,a,a)", 7, -1);
         askText(x, "term", "un(a,a,a,a,a,a,e)", STATE, -1);
-        askText(x, "term", deep(19, "a"), 8, -1);
-        askText(x, "term", deep(20, "a"), STATE, -1);
-        askText(x, "term", deep(20, "a") + ")", ARGUMENT, 61);
-        askText(x, "term", deep(132, "a"), STATE, -1);
-        askText(x, "term", times("s(", 200), ARGUMENT, 400);
-        askText(x, "term", "plus(" + deep(15, "a") + ",b,a)", 9, -1);
-        askText(x, "term", "plus(" + deep(15, "a") + ",b,a,a)", 10, -1);
-        askText(x, "term", "plus(" + deep(15, "a") + ",b,a,a,a)", STATE, -1);
-        askText(x, "term", "plus(" + deep(15, "a") + ",b,a,a,e)", 10, -1);
+        askText(x, "term", Make.deep(19, "a"), 8, -1);
+        askText(x, "term", Make.deep(20, "a"), STATE, -1);
+        askText(x, "term", Make.deep(20, "a") + ")", ARGUMENT, 61);
+        askText(x, "term", Make.deep(132, "a"), STATE, -1);
+        askText(x, "term", "s(".repeat(200), ARGUMENT, 400);
+        askText(x, "term", "plus(" + Make.deep(15, "a") + ",b,a)", 9, -1);
+        askText(x, "term", "plus(" + Make.deep(15, "a") + ",b,a,a)", 10, -1);
+        askText(x, "term", "plus(" + Make.deep(15, "a") + ",b,a,a,a)", STATE, -1);
+        askText(x, "term", "plus(" + Make.deep(15, "a") + ",b,a,a,e)", 10, -1);
         askText(x, "term", "", ARGUMENT, 0);
         askText(x, "term", "  ", ARGUMENT, 2);
         askText(x, "term", "a a", ARGUMENT, 2);
@@ -297,14 +262,14 @@ public final class Promises {
     }
 
     private static void thirtyTerms() {
-        SumRewriter x = with(BASE);
+        SumRewriter x = Make.with(Make.BASE);
         for (int i = 0; i < 30; i++) {
-            askText(x, "term", i < 20 ? deep(i, "a") : deep(i - 20, "b"), i, -1);
+            askText(x, "term", i < 20 ? Make.deep(i, "a") : Make.deep(i - 20, "b"), i, -1);
         }
         askText(x, "term", "x", STATE, -1);
         askText(x, "term", "s(b)", 21, -1);
         askText(x, "term", "q", ARGUMENT, 0);
-        askText(x, "term", deep(20, "a"), STATE, -1);
+        askText(x, "term", Make.deep(20, "a"), STATE, -1);
         ask("30 terms", () -> x.count(2), 30);
         ask("the last one by ORDER", () -> x.rank(29), 19);
         ask("as bits", () -> x.operator(0, 3), (1 << 20) - 1);
@@ -312,7 +277,7 @@ public final class Promises {
 
     private static void promise6Rule() {
         promise = 6;
-        SumRewriter x = with(BASE);
+        SumRewriter x = Make.with(Make.BASE);
         askText(x, "rule", "s(x)=x", 0, -1);
         askText(x, "rule", " s ( x ) = x ", 1, -1);
         askText(x, "rule", "a=e", 2, -1);
@@ -324,11 +289,11 @@ public final class Promises {
         askText(x, "rule", "plus(e,e)=a", 4, -1);
         askText(x, "rule", "s(x)=y", STATE, -1);
         askText(x, "rule", "s(x)=plus(x,y)", STATE, -1);
-        askText(x, "rule", deep(20, "a") + "=a", STATE, -1);
-        askText(x, "rule", "a=" + deep(20, "a"), STATE, -1);
+        askText(x, "rule", Make.deep(20, "a") + "=a", STATE, -1);
+        askText(x, "rule", "a=" + Make.deep(20, "a"), STATE, -1);
         askText(x, "rule", "plus(a,a,a,a,a,a,a)=a", STATE, -1);
         askText(x, "rule", "a=un(a,a,a,a,a,a,a)", STATE, -1);
-        askText(x, "rule", deep(19, "a") + "=" + deep(19, "b"), 5, -1);
+        askText(x, "rule", Make.deep(19, "a") + "=" + Make.deep(19, "b"), 5, -1);
         askText(x, "rule", "s(x)", ARGUMENT, 4);
         askText(x, "rule", "s(x)=", ARGUMENT, 5);
         askText(x, "rule", "s(x)==x", ARGUMENT, 5);
@@ -336,7 +301,7 @@ public final class Promises {
         askText(x, "rule", "s(x)=q", ARGUMENT, 5);
         askText(x, "rule", "", ARGUMENT, 0);
         askText(x, "rule", "x=q", ARGUMENT, 2);
-        askText(x, "rule", deep(20, "a") + "=q", ARGUMENT, 62);
+        askText(x, "rule", Make.deep(20, "a") + "=q", ARGUMENT, 62);
         askText(x, "rule", "a=b", 6, -1);
         askText(x, "rule", "a=b", 7, -1);
         askText(x, "rule", "a=b", STATE, -1);
@@ -354,7 +319,7 @@ public final class Promises {
         x.feed(1, 2, 3, 4, 5);
         ask("behind feed", () -> x.fault(), 4);
         x.end(0);
-        askText(x, "signature", BASE, 7, -1);
+        askText(x, "signature", Make.BASE, 7, -1);
         askText(x, "term", "s(s(a)", ARGUMENT, 6);
         askText(x, "term", "x", 0, -1);
         askText(x, "rule", "s(y)=s(y", ARGUMENT, 8);
@@ -369,8 +334,8 @@ public final class Promises {
 
     private static void promise8Turn() {
         promise = 8;
-        SumRewriter x = with(BASE, "a");
-        rules(x, "a=b", "a=s(a)");
+        SumRewriter x = Make.with(Make.BASE, "a");
+        Make.rules(x, "a=b", "a=s(a)");
         ask("on again", () -> x.turn(0, true), false);
         ask("off", () -> x.turn(0, false), true);
         ask("off again", () -> x.turn(0, false), false);
@@ -384,7 +349,7 @@ public final class Promises {
 
     private static void promise9Operator() {
         promise = 9;
-        SumRewriter x = with("free a 0;free f 1;free g 2;free h 3;c k;ac p unit a;ac q;var x;", "f(a)", "x", "k(f(x),q(x,x))");
+        SumRewriter x = Make.with("free a 0;free f 1;free g 2;free h 3;c k;ac p unit a;ac q;var x;", "f(a)", "x", "k(f(x),q(x,x))");
         int[] kinds = {0, 0, 0, 0, 1, 2, 2};
         int[] parts = {0, 1, 2, 3, 2, 2, 2};
         int[] units = {-1, -1, -1, -1, -1, 0, -1};
@@ -405,7 +370,7 @@ public final class Promises {
 
     private static void promise10About() {
         promise = 10;
-        SumRewriter x = with(BASE, "plus(a,m(s(x),plus(y,y,b)))", "y", "a", "un(s(a),s(b),x)", "un(s(a),x,y)");
+        SumRewriter x = Make.with(Make.BASE, "plus(a,m(s(x),plus(y,y,b)))", "y", "a", "un(s(a),s(b),x)", "un(s(a),x,y)");
         int[] want = {5, -1, 2, 9, 3, 3, 59, 0, 3};
         int[] variable = {-1, 1, 0, 1, 0, 2, 0, 0, 1};
         int[] constant = {0, -1, 0, 1, 0, 0, 1, 0, 0};
@@ -420,7 +385,7 @@ public final class Promises {
         ask("term 5", () -> x.about(5, 0), INDEX);
         ask("term -1", () -> x.about(-1, 0), INDEX);
         ask("which comes first", () -> x.about(5, 9), INDEX);
-        rules(x, "un(s(x),s(y))=a", "plus(x,s(y))=a", "a=b", "un(x,y)=a", "un(s(x),plus(x,y))=a", "m(x,y)=a", "un(a,x)=b");
+        Make.rules(x, "un(s(x),s(y))=a", "plus(x,s(y))=a", "a=b", "un(x,y)=a", "un(s(x),plus(x,y))=a", "m(x,y)=a", "un(a,x)=b");
         ask("could of a sum", () -> x.about(0, 7), 2);
         ask("could of a variable", () -> x.about(1, 7), 2);
         ask("could of a constant", () -> x.about(2, 7), 2 + 4);
@@ -435,7 +400,7 @@ public final class Promises {
         promise = 11;
         String[] sorted = {"x", "y", "z", "a", "b", "e", "s(x)", "s(a)", "s(s(a))", "m(x,y)", "m(x,a)", "m(y,a)",
             "plus(x,a)", "plus(a,a)", "plus(a,b)", "plus(x,x,x)", "plus(x,x,y)", "un(x,x)", "un(b,s(a))", "un(a,a,a)"};
-        SumRewriter x = with(BASE, sorted);
+        SumRewriter x = Make.with(Make.BASE, sorted);
         for (int i = 0; i < sorted.length; i++) {
             for (int j = 0; j < sorted.length; j++) {
                 int a = i;
@@ -450,7 +415,7 @@ public final class Promises {
 
     private static void promise12Rank() {
         promise = 12;
-        SumRewriter x = with(BASE, "un(a,b)", "b", "y", "s(y)", "x");
+        SumRewriter x = Make.with(Make.BASE, "un(a,b)", "b", "y", "s(y)", "x");
         int[] want = {4, 2, 1, 3, 0, -1};
         for (int k = 0; k < want.length; k++) {
             int i = k;
@@ -463,15 +428,15 @@ public final class Promises {
 
     private static void promise13Show() {
         promise = 13;
-        SumRewriter x = with(BASE, "x", "un( b , s(plus(y,a,e)) ,un(a,a))", deep(19, "b"));
+        SumRewriter x = Make.with(Make.BASE, "x", "un( b , s(plus(y,a,e)) ,un(a,a))", Make.deep(19, "b"));
         askShown(x, "a variable", () -> x.show(0), "x");
         askShown(x, "a sum", () -> x.show(1), "un(a,a,b,s(plus(y,a)))");
-        askShown(x, "one of size 20", () -> x.show(2), deep(19, "b"));
+        askShown(x, "one of size 20", () -> x.show(2), Make.deep(19, "b"));
         ask("show(3)", () -> x.show(3), INDEX);
         ask("show(-1)", () -> x.show(-1), INDEX);
-        ask("what was shown stays", () -> Check.shown(x), deep(19, "b"));
+        ask("what was shown stays", () -> Check.shown(x), Make.deep(19, "b"));
         String six = "free abcdef 0;ac bcdefg;ac cdefgh;var defghi;";
-        SumRewriter y = with(six, "bcdefg(cdefgh(abcdef,abcdef,defghi),cdefgh(abcdef,abcdef,abcdef),"
+        SumRewriter y = Make.with(six, "bcdefg(cdefgh(abcdef,abcdef,defghi),cdefgh(abcdef,abcdef,abcdef),"
                 + "cdefgh(defghi,defghi,defghi),cdefgh(defghi,defghi,abcdef),abcdef,defghi)");
         askShown(y, "long names", () -> y.show(0), "bcdefg(defghi,abcdef,cdefgh(defghi,defghi,defghi),"
                 + "cdefgh(defghi,defghi,abcdef),cdefgh(defghi,abcdef,abcdef),cdefgh(abcdef,abcdef,abcdef))");
@@ -479,7 +444,7 @@ public final class Promises {
 
     private static void promise14Place() {
         promise = 14;
-        SumRewriter x = with(BASE, "plus(s(y),m(un(a,b),s(x)),a)", "z");
+        SumRewriter x = Make.with(Make.BASE, "plus(s(y),m(un(a,b),s(x)),a)", "z");
         String[] want = {"plus(a,s(y),m(s(x),un(a,b)))", "a", "s(y)", "y", "m(s(x),un(a,b))", "s(x)", "x", "un(a,b)", "a", "b"};
         for (int k = 0; k < want.length; k++) {
             int i = k;
@@ -496,8 +461,8 @@ public final class Promises {
 
     private static void promise15Side() {
         promise = 15;
-        SumRewriter x = with(BASE);
-        rules(x, "plus(s(y),x,e)=un(y,x)", "a=plus(e,e)");
+        SumRewriter x = Make.with(Make.BASE);
+        Make.rules(x, "plus(s(y),x,e)=un(y,x)", "a=plus(e,e)");
         askShown(x, "left of 0", () -> x.side(0, false), "plus(x,s(y))");
         askShown(x, "right of 0", () -> x.side(0, true), "un(x,y)");
         askShown(x, "left of 1", () -> x.side(1, false), "a");
@@ -508,7 +473,7 @@ public final class Promises {
 
     private static void promise16Matches() {
         promise = 16;
-        SumRewriter x = with(BASE, "plus(x,y)", "plus(a,b)", "a", "e", "plus(x,x)", "plus(a,a)", "un(x,y)",
+        SumRewriter x = Make.with(Make.BASE, "plus(x,y)", "plus(a,b)", "a", "e", "plus(x,x)", "plus(a,a)", "un(x,y)",
                 "un(a,a,b)", "m(x,s(y))", "m(s(a),s(b))", "plus(un(x,y),z)", "x", "plus(a,s(x),s(y))",
                 "plus(a,b,s(a),s(b),s(s(a)))", "plus(x,y,z)", "m(plus(x,y),plus(x,z))", "m(a,b)");
         int[][] want = {{0, 1, 4}, {0, 2, 2}, {0, 3, 1}, {4, 5, 1}, {4, 1, 0}, {4, 3, 1}, {4, 2, 0}, {6, 7, 4},
@@ -520,7 +485,7 @@ public final class Promises {
         ask("no such pattern", () -> x.matches(17, 0), INDEX);
         ask("no such term", () -> x.matches(0, 17), INDEX);
         ask("pattern -1", () -> x.matches(-1, 0), INDEX);
-        SumRewriter y = with("free a 0;free b 0;free d 0;free f 0;free e 0;c m;ac plus unit e;var x;var y;var z;var u;var w;",
+        SumRewriter y = Make.with("free a 0;free b 0;free d 0;free f 0;free e 0;c m;ac plus unit e;var x;var y;var z;var u;var w;",
                 "m(plus(x,y,z,u),w)", "m(plus(a,a,b,b),plus(a,a,a,b,b))", "m(plus(x,y,z),plus(u,w))",
                 "m(plus(a,a,a,b,d,f),e)", "plus(x,y,z,u,w)", "plus(a,a,b,d,e,f)", "plus(a,b,d)",
                 "m(plus(u,y,x,z),plus(w,y))", "m(plus(f,f,f,f),plus(f,f,d,a,b))");
@@ -529,7 +494,7 @@ public final class Promises {
         ask("302 matches", () -> y.matches(2, 3), STATE);
         ask("many more", () -> y.matches(4, 5), STATE);
         ask("125 of them", () -> y.matches(4, 6), 125);
-        SumRewriter v = with("free e 0;free i 0;ac p unit e;ac q unit i;free a 0;free b 0;var x;var y;",
+        SumRewriter v = Make.with("free e 0;free i 0;ac p unit e;ac q unit i;free a 0;free b 0;var x;var y;",
                 "q(x,p(x,y))", "q(a,a)", "a", "q(x,x,y)", "i", "p(x,q(a,y))", "e", "p(a,b)");
         ask("a unit within another sum", () -> v.matches(0, 1), 1);
         ask("q(x,p(x,y)) and a", () -> v.matches(0, 2), 0);
@@ -542,7 +507,7 @@ public final class Promises {
 
     private static void promise17Bound() {
         promise = 17;
-        SumRewriter x = with(BASE, "plus(x,y)", "plus(b,a)", "m(x,s(z))", "m(s(a),s(y))", "plus(x,y,z)",
+        SumRewriter x = Make.with(Make.BASE, "plus(x,y)", "plus(b,a)", "m(x,s(z))", "m(s(a),s(y))", "plus(x,y,z)",
                 "plus(a,b,s(a),s(b),s(s(a)),s(s(b)))", "a", "b");
         String[][] want = {{"a", "b"}, {"b", "a"}, {"e", "plus(a,b)"}, {"plus(a,b)", "e"}};
         for (int k = 0; k < 4; k++) {
@@ -571,14 +536,14 @@ public final class Promises {
 
     private static void promise18Fill() {
         promise = 18;
-        SumRewriter x = with(BASE, "plus(x,m(y,s(x)))", "plus(a,b)", "e", "y", "plus(a,a,a,a,a,x)", deep(9, "x"), deep(10, "a"), deep(11, "a"));
+        SumRewriter x = Make.with(Make.BASE, "plus(x,m(y,s(x)))", "plus(a,b)", "e", "y", "plus(a,a,a,a,a,x)", Make.deep(9, "x"), Make.deep(10, "a"), Make.deep(11, "a"));
         askShown(x, "x by plus(a,b)", () -> x.fill(0, 0, 1), "plus(a,b,m(y,s(plus(a,b))))");
         askShown(x, "x by e", () -> x.fill(0, 0, 2), "m(y,s(e))");
         askShown(x, "y by e", () -> x.fill(0, 1, 2), "plus(x,m(e,s(x)))");
         askShown(x, "x by y", () -> x.fill(0, 0, 3), "plus(y,m(y,s(y)))");
         askShown(x, "x by itself", () -> x.fill(0, 0, 0), "plus(x,m(y,s(x)),m(y,s(plus(x,m(y,s(x))))))");
         askShown(x, "z, which is not in it", () -> x.fill(0, 2, 1), "plus(x,m(y,s(x)))");
-        askShown(x, "size 20", () -> x.fill(5, 0, 6), deep(19, "a"));
+        askShown(x, "size 20", () -> x.fill(5, 0, 6), Make.deep(19, "a"));
         ask("size 21", () -> x.fill(5, 0, 7), STATE);
         ask("7 parts", () -> x.fill(4, 0, 1), STATE);
         askShown(x, "6 parts", () -> x.fill(4, 0, 3), "plus(y,a,a,a,a,a)");
@@ -592,7 +557,7 @@ public final class Promises {
 
     private static void promise19Join() {
         promise = 19;
-        SumRewriter x = with(BASE, "plus(b,x)", "plus(a,s(a))", "e", "plus(a,a,a)", "plus(a,a,a,b)", deep(9, "a"), deep(8, "a"), deep(8, "b"));
+        SumRewriter x = Make.with(Make.BASE, "plus(b,x)", "plus(a,s(a))", "e", "plus(a,a,a)", "plus(a,a,a,b)", Make.deep(9, "a"), Make.deep(8, "a"), Make.deep(8, "b"));
         askShown(x, "two sums", () -> x.join(5, 0, 1), "plus(x,a,b,s(a))");
         askShown(x, "by another operator", () -> x.join(6, 0, 1), "un(plus(x,b),plus(a,s(a)))");
         askShown(x, "with the unit", () -> x.join(5, 0, 2), "plus(x,b)");
@@ -600,7 +565,7 @@ public final class Promises {
         askShown(x, "no unit of that one", () -> x.join(6, 2, 2), "un(e,e)");
         askShown(x, "6 parts", () -> x.join(5, 3, 3), "plus(a,a,a,a,a,a)");
         ask("7 parts", () -> x.join(5, 3, 4), STATE);
-        askShown(x, "size 20", () -> x.join(5, 5, 7), "plus(" + deep(8, "b") + "," + deep(9, "a") + ")");
+        askShown(x, "size 20", () -> x.join(5, 5, 7), "plus(" + Make.deep(8, "b") + "," + Make.deep(9, "a") + ")");
         ask("size 21", () -> x.join(5, 5, 5), STATE);
         ask("free", () -> x.join(3, 0, 1), ARGUMENT);
         ask("c", () -> x.join(4, 0, 1), ARGUMENT);
@@ -614,35 +579,35 @@ public final class Promises {
 
     /** The first term has 200 steps with the rules 0 to 4, the second one 201 with all of them. */
     private static SumRewriter manySteps() {
-        SumRewriter x = with("free a 0;free b 0;free d 0;free f 0;free h 0;free t 0;free g 2;free s 1;ac un;var x;var y;",
+        SumRewriter x = Make.with("free a 0;free b 0;free d 0;free f 0;free h 0;free t 0;free g 2;free s 1;ac un;var x;var y;",
                 "g(un(a,b,d,f,h),g(t,g(t,g(t,g(t,t)))))", "g(un(a,b,d,f,h),g(t,g(t,t)))", "un(a,b,d,f,h)");
-        rules(x, "un(x,y)=s(x)", "t=a", "t=b", "t=d", "t=f", "t=h", "t=s(a)", "t=s(b)");
+        Make.rules(x, "un(x,y)=s(x)", "t=a", "t=b", "t=d", "t=f", "t=h", "t=s(a)", "t=s(b)");
         return x;
     }
 
     private static void promise20Steps() {
         promise = 20;
-        SumRewriter x = with(BASE, "un(s(a),s(b),a)", "plus(a,b)", "a", "x", deep(19, "b"), "plus(a,a,a,a,a,a)", "un(a,plus(a,b))");
+        SumRewriter x = Make.with(Make.BASE, "un(s(a),s(b),a)", "plus(a,b)", "a", "x", Make.deep(19, "b"), "plus(a,a,a,a,a,a)", "un(a,plus(a,b))");
         ask("without rules", () -> x.steps(0), 0);
-        rules(x, "un(s(x),s(y))=s(x)");
+        Make.rules(x, "un(s(x),s(y))=s(x)");
         ask("by a part of a sum", () -> x.steps(0), 2);
         x.turn(0, false);
-        rules(x, "plus(x,y)=s(plus(x,y))");
+        Make.rules(x, "plus(x,y)=s(plus(x,y))");
         ask("plus(a,b): whole, one part, none; and each part at its own place", () -> x.steps(1), 6);
         x.turn(1, false);
-        rules(x, "b=s(b)");
+        Make.rules(x, "b=s(b)");
         ask("too great ones are left out", () -> x.steps(4), 0);
         x.turn(2, false);
-        rules(x, "a=plus(a,b)");
+        Make.rules(x, "a=plus(a,b)");
         ask("with 7 parts it is left out", () -> x.steps(5), 0);
         x.turn(3, false);
-        rules(x, "plus(x,y)=plus(y,x)");
+        Make.rules(x, "plus(x,y)=plus(y,x)");
         ask("such as change nothing are left out", () -> x.steps(1), 0);
         x.turn(4, false);
-        rules(x, "a=b");
+        Make.rules(x, "a=b");
         ask("by places", () -> x.steps(6), 2);
         ask("alike behind, at unlike places", () -> x.steps(5), 6);
-        rules(x, "a=b");
+        Make.rules(x, "a=b");
         ask("alike rules are two", () -> x.steps(2), 2);
         ask("of a variable", () -> x.steps(3), 0);
         ask("no such term", () -> x.steps(7), INDEX);
@@ -655,12 +620,12 @@ public final class Promises {
         ask("205 steps", () -> y.steps(0), STATE);
         y.turn(5, false);
         ask("200 steps", () -> y.steps(0), 200);
-        SumRewriter z = with(BASE, "plus(a,b,s(a),s(b),s(s(a)),s(s(b)))", "plus(a,b,s(a),s(b))");
-        rules(z, "plus(x,y,z)=plus(x,y,z)");
+        SumRewriter z = Make.with(Make.BASE, "plus(a,b,s(a),s(b),s(s(a)),s(s(b)))", "plus(a,b,s(a),s(b))");
+        Make.rules(z, "plus(x,y,z)=plus(x,y,z)");
         ask("matches that are too much", () -> z.steps(0), STATE);
         ask("matches that are not", () -> z.steps(1), 0);
-        SumRewriter v = with("free e 0;free i 0;ac p unit e;ac q unit i;free a 0;free b 0;free d 0;var x;var y;", "p(a,b,d)", "q(a,b)", "a");
-        rules(v, "q(x,a)=b");
+        SumRewriter v = Make.with("free e 0;free i 0;ac p unit e;ac q unit i;free a 0;free b 0;free d 0;var x;var y;", "p(a,b,d)", "q(a,b)", "a");
+        Make.rules(v, "q(x,a)=b");
         ask("a sum that falls together, at a place", () -> v.steps(0), 1);
         ask("some parts of q(a,b)", () -> v.steps(1), 3);
         ask("a itself", () -> v.steps(2), 1);
@@ -668,8 +633,8 @@ public final class Promises {
 
     private static void promise21Step() {
         promise = 21;
-        SumRewriter x = with(BASE, "un(a,s(a),m(a,b))", "plus(a,b,s(x))", "b");
-        rules(x, "a=e", "s(x)=x", "un(x,y)=x");
+        SumRewriter x = Make.with(Make.BASE, "un(a,s(a),m(a,b))", "plus(a,b,s(x))", "b");
+        Make.rules(x, "a=e", "s(x)=x", "un(x,y)=x");
         x.turn(2, false);
         String[] want = {"un(e,s(a),m(a,b))", "un(a,a,m(a,b))", "un(a,s(e),m(a,b))", "un(a,s(a),m(b,e))"};
         for (int k = 0; k < want.length; k++) {
@@ -689,23 +654,23 @@ public final class Promises {
             int i = k;
             askShown(x, "by ORDER, step " + k, () -> x.step(0, i), parts[k]);
         }
-        SumRewriter y = with(BASE, "plus(a,b)");
-        rules(y, "plus(x,a)=plus(x,s(e))", "e=a");
+        SumRewriter y = Make.with(Make.BASE, "plus(a,b)");
+        Make.rules(y, "plus(x,a)=plus(x,s(e))", "e=a");
         askShown(y, "the others come along", () -> y.step(0, 0), "plus(b,s(e))");
         ask("at place 0 once for all ways, and at place 1", () -> y.steps(0), 2);
         SumRewriter z = manySteps();
         ask("too much", () -> z.step(1, 0), STATE);
         ask("too much ahead of no such step", () -> z.step(1, -1), STATE);
         ask("no such term ahead of it", () -> z.step(3, 0), INDEX);
-        SumRewriter none = with(BASE, "plus(a,b)");
-        rules(none, "plus(x,x)=s(a)");
+        SumRewriter none = Make.with(Make.BASE, "plus(a,b)");
+        Make.rules(none, "plus(x,x)=s(a)");
         askShown(none, "a match of none", () -> none.step(0, 0), "plus(a,b,s(a))");
     }
 
     private static void promise22StepAt() {
         promise = 22;
-        SumRewriter x = with(BASE, "un(a,s(a),m(a,b))", "b");
-        rules(x, "a=e", "s(x)=x", "a=b");
+        SumRewriter x = Make.with(Make.BASE, "un(a,s(a),m(a,b))", "b");
+        Make.rules(x, "a=e", "s(x)=x", "a=b");
         int[][] want = {{1, 0}, {1, 2}, {2, 1}, {3, 0}, {3, 2}, {5, 0}, {5, 2}};
         ask("how many", () -> x.steps(0), want.length);
         for (int k = 0; k < want.length; k++) {
@@ -732,8 +697,8 @@ public final class Promises {
 
     private static void promise23AtTop() {
         promise = 23;
-        SumRewriter x = with(BASE, "un(s(a),s(b),a)", "s(un(s(a),s(b)))", "un(a,b)");
-        rules(x, "un(s(x),s(y))=s(x)", "s(x)=x", "un(x,y)=x");
+        SumRewriter x = Make.with(Make.BASE, "un(s(a),s(b),a)", "s(un(s(a),s(b)))", "un(a,b)");
+        Make.rules(x, "un(s(x),s(y))=s(x)", "s(x)=x", "un(x,y)=x");
         ask("rule 0", () -> x.atTop(0, 0), 2);
         ask("rule 0 within", () -> x.atTop(1, 0), 0);
         ask("rule 1", () -> x.atTop(1, 1), 1);
@@ -748,16 +713,16 @@ public final class Promises {
         SumRewriter y = manySteps();
         ask("180 alone", () -> y.atTop(2, 0), 180);
         ask("the others are elsewhere", () -> y.atTop(1, 1), 0);
-        SumRewriter z = with("free a 0;free b 0;free d 0;free f 0;free h 0;free t 0;free s 1;ac un;var x;var y;", "un(a,b,d,f,h,t)");
-        rules(z, "un(x,y)=s(x)", "a=b");
+        SumRewriter z = Make.with("free a 0;free b 0;free d 0;free f 0;free h 0;free t 0;free s 1;ac un;var x;var y;", "un(a,b,d,f,h,t)");
+        Make.rules(z, "un(x,y)=s(x)", "a=b");
         ask("602 are too much", () -> z.atTop(0, 0), STATE);
         ask("none of the other rule", () -> z.atTop(0, 1), 0);
     }
 
     private static void promise24Walk() {
         promise = 24;
-        SumRewriter x = with(BASE, "s(s(s(a)))", "a", "plus(a,b)", "b", "plus(s(a),s(b))");
-        rules(x, "s(x)=x");
+        SumRewriter x = Make.with(Make.BASE, "s(s(s(a)))", "a", "plus(a,b)", "b", "plus(s(a),s(b))");
+        Make.rules(x, "s(x)=x");
         ask("to the end", () -> x.walk(0), 3);
         ask("what is there", () -> Check.shown(x), "a");
         ask("bytes", () -> x.count(5), 1);
@@ -765,7 +730,7 @@ public final class Promises {
         ask("it is shown", () -> Check.shown(x), "a");
         ask("two ways", () -> x.walk(4), 2);
         ask("what is there then", () -> Check.shown(x), "plus(a,b)");
-        rules(x, "a=b", "b=a");
+        Make.rules(x, "a=b", "b=a");
         ask("without end", () -> x.walk(1), 40);
         ask("behind 40", () -> Check.shown(x), "a");
         ask("without end, from b", () -> x.walk(3), 40);
@@ -773,9 +738,9 @@ public final class Promises {
         ask("plus(a,b)", () -> x.walk(2), 40);
         ask("the first step each time", () -> Check.shown(x), "plus(a,b)");
         ask("no such term", () -> x.walk(5), INDEX);
-        SumRewriter y = with("free a 0;free b 0;free d 0;free f 0;free h 0;free t 0;free g 1;free s 1;ac un;var x;var y;",
+        SumRewriter y = Make.with("free a 0;free b 0;free d 0;free f 0;free h 0;free t 0;free g 1;free s 1;ac un;var x;var y;",
                 "g(a)", "un(a,b,d,f,h,t)", "t");
-        rules(y, "g(x)=un(a,b,d,f,h,t)", "un(x,y)=s(x)");
+        Make.rules(y, "g(x)=un(a,b,d,f,h,t)", "un(x,y)=s(x)");
         ask("too much on the way", () -> y.walk(0), STATE);
         ask("too much at once", () -> y.walk(1), STATE);
         ask("nothing is shown", () -> y.count(5), 0);
@@ -784,10 +749,10 @@ public final class Promises {
 
     /** Two digits counted down by forty steps; what is there then has too many, but it is not asked. */
     private static void countdown() {
-        SumRewriter x = with("free a 0;free b 0;free d 0;free f 0;free h 0;free t 0;free s 1;free g 2;ac un;var x;var y;",
-                "g(" + deep(5, "t") + "," + deep(4, "t") + ")", "g(" + deep(5, "t") + "," + deep(3, "t") + ")",
-                "g(" + deep(5, "t") + "," + deep(5, "t") + ")");
-        rules(x, "g(x,s(y))=g(x,y)", "g(s(x),t)=g(x,s(s(s(s(s(s(t)))))))", "g(t,t)=un(a,b,d,f,h,t)", "un(x,y)=s(x)");
+        SumRewriter x = Make.with("free a 0;free b 0;free d 0;free f 0;free h 0;free t 0;free s 1;free g 2;ac un;var x;var y;",
+                "g(" + Make.deep(5, "t") + "," + Make.deep(4, "t") + ")", "g(" + Make.deep(5, "t") + "," + Make.deep(3, "t") + ")",
+                "g(" + Make.deep(5, "t") + "," + Make.deep(5, "t") + ")");
+        Make.rules(x, "g(x,s(y))=g(x,y)", "g(s(x),t)=g(x,s(s(s(s(s(s(t)))))))", "g(t,t)=un(a,b,d,f,h,t)", "un(x,y)=s(x)");
         ask("forty steps", () -> x.walk(0), 40);
         ask("and stands at the forty-first's begin", () -> Check.shown(x), "un(a,b,d,f,h,t)");
         ask("thirty-nine, then too much", () -> x.walk(1), STATE);
@@ -800,9 +765,9 @@ public final class Promises {
 
     /** Seven times a, which may become one of seven others. */
     private static SumRewriter manyReached() {
-        SumRewriter x = with("free a 0;free b 0;free d 0;free f 0;free h 0;free i 0;free j 0;free k 0;free g 2;",
+        SumRewriter x = Make.with("free a 0;free b 0;free d 0;free f 0;free h 0;free i 0;free j 0;free k 0;free g 2;",
                 "g(a,g(a,g(a,g(a,g(a,g(a,a))))))", "g(a,g(a,g(a,g(a,g(a,g(a,g(a,g(a,g(a,a)))))))))", "a", "b", "g(a,a)", "g(b,d)");
-        rules(x, "a=b", "a=d", "a=f", "a=h", "a=i", "a=j", "a=k");
+        Make.rules(x, "a=b", "a=d", "a=f", "a=h", "a=i", "a=j", "a=k");
         return x;
     }
 
@@ -832,9 +797,9 @@ public final class Promises {
         ask("n -1", () -> x.reach(2, -1, false), ARGUMENT);
         ask("no such term", () -> x.reach(6, 5, false), INDEX);
         ask("n ahead of too much", () -> x.reach(1, 5, false), ARGUMENT);
-        SumRewriter y = with("free a 0;free b 0;free d 0;free f 0;free h 0;free t 0;free g 1;free s 1;ac un;var x;var y;",
+        SumRewriter y = Make.with("free a 0;free b 0;free d 0;free f 0;free h 0;free t 0;free g 1;free s 1;ac un;var x;var y;",
                 "g(a)", "un(a,b,d,f,h,t)");
-        rules(y, "g(x)=un(a,b,d,f,h,t)", "un(x,y)=s(x)");
+        Make.rules(y, "g(x)=un(a,b,d,f,h,t)", "un(x,y)=s(x)");
         ask("the last ones are not asked", () -> y.reach(0, 1, false), 2);
         ask("but where normal ones are told", () -> y.reach(0, 1, true), STATE);
         ask("or with more steps", () -> y.reach(0, 2, false), STATE);
@@ -844,8 +809,8 @@ public final class Promises {
 
     private static void promise26Reached() {
         promise = 26;
-        SumRewriter x = with(BASE, "m(a,b)", "b");
-        rules(x, "a=s(e)", "b=e", "s(x)=x");
+        SumRewriter x = Make.with(Make.BASE, "m(a,b)", "b");
+        Make.rules(x, "a=s(e)", "b=e", "s(x)=x");
         String[] want = {"m(a,b)", "m(a,e)", "m(b,s(e))"};
         for (int k = 0; k < 3; k++) {
             int i = k;
@@ -874,8 +839,8 @@ public final class Promises {
 
     private static void promise27Meet() {
         promise = 27;
-        SumRewriter x = with(BASE, "s(s(a))", "s(b)", "a", "b", "plus(a,b)", "m(a,s(b))", "z", deep(5, "a"));
-        rules(x, "s(x)=x", "a=e", "b=e");
+        SumRewriter x = Make.with(Make.BASE, "s(s(a))", "s(b)", "a", "b", "plus(a,b)", "m(a,s(b))", "z", Make.deep(5, "a"));
+        Make.rules(x, "s(x)=x", "a=e", "b=e");
         ask("itself", () -> x.meet(0, 0, 0), 0);
         ask("itself by 4", () -> x.meet(0, 0, 4), 0);
         ask("a and b by 0", () -> x.meet(2, 3, 0), -1);
@@ -911,7 +876,7 @@ public final class Promises {
 
     private static void promise28Keep() {
         promise = 28;
-        SumRewriter x = with(BASE, "plus(a,b)", "s(x)");
+        SumRewriter x = Make.with(Make.BASE, "plus(a,b)", "s(x)");
         ask("nothing is shown", () -> x.keep(), STATE);
         x.join(6, 0, 1);
         ask("kept", () -> x.keep(), 2);
@@ -921,13 +886,13 @@ public final class Promises {
         ask("told already", () -> x.keep(), 1);
         x.place(2, 2);
         ask("a variable", () -> x.keep(), 3);
-        rules(x, "s(x)=m(x,x)");
+        Make.rules(x, "s(x)=m(x,x)");
         x.side(0, true);
         ask("a side", () -> x.keep(), 4);
-        Check.signature(x, BASE);
+        Check.signature(x, Make.BASE);
         ask("a new signature", () -> x.keep(), STATE);
         for (int i = 0; i < 30; i++) {
-            Check.term(x, i < 20 ? deep(i, "a") : deep(i - 20, "b"));
+            Check.term(x, i < 20 ? Make.deep(i, "a") : Make.deep(i - 20, "b"));
         }
         x.fill(0, 0, 0);
         ask("alike with 30", () -> x.keep(), 0);
@@ -939,7 +904,7 @@ public final class Promises {
 
     private static void promise29Octet() {
         promise = 29;
-        SumRewriter x = with(BASE, "m(x,a)");
+        SumRewriter x = Make.with(Make.BASE, "m(x,a)");
         ask("nothing is shown", () -> x.octet(0), -1);
         x.show(0);
         String text = "m(x,a)";
@@ -957,8 +922,8 @@ public final class Promises {
 
     private static void promise30Count() {
         promise = 30;
-        SumRewriter x = with(BASE, "plus(a,b)", "s(s(a))", "b", "plus(x,y)");
-        rules(x, "plus(x,y)=x", "a=b", "s(x)=a");
+        SumRewriter x = Make.with(Make.BASE, "plus(a,b)", "s(s(a))", "b", "plus(x,y)");
+        Make.rules(x, "plus(x,y)=x", "a=b", "s(x)=a");
         x.turn(1, false);
         x.show(1);
         int[] want = {7, 3, 4, 3, 5, 7, 0, 3, 4 + 2 + 2 + 4 + 1};
@@ -974,8 +939,8 @@ public final class Promises {
         x.turn(2, false);
         ask("all are normal", () -> x.count(6), 15);
         ask("no matches", () -> x.count(8), 0);
-        SumRewriter y = with(BASE, "a", "plus(a,b,s(a),s(b),s(s(a)),s(s(b)))");
-        rules(y, "plus(x,y,z)=plus(x,y,z)");
+        SumRewriter y = Make.with(Make.BASE, "a", "plus(a,b,s(a),s(b),s(s(a)),s(s(b)))");
+        Make.rules(y, "plus(x,y,z)=plus(x,y,z)");
         ask("too much for normal ones", () -> y.count(6), -1);
         ask("too much for matches", () -> y.count(8), -1);
         y.turn(0, false);

@@ -4,8 +4,14 @@ import java.util.concurrent.Callable;
 final class Check {
     private static int wrong = 0;
     private static int asked = 0;
+    private static String sentence = "";
 
     private Check() {
+    }
+
+    /** The document's words that the answers from now on are asked for. */
+    static void sentence(String words) {
+        sentence = words + ": ";
     }
 
     static void due(String what, Object got, Object want) {
@@ -13,7 +19,7 @@ final class Check {
         if (!String.valueOf(got).equals(String.valueOf(want))) {
             wrong++;
             if (wrong <= 40) {
-                System.out.println(what + " answered " + got + ", due is " + want);
+                System.out.println(sentence + what + " answered " + got + ", due is " + want);
             }
         }
     }
