@@ -416,6 +416,13 @@ public final class EdgesOfSteps {
             Edge.shows("itself by " + n, x, y -> y.reached(0, m, false, m), Make.deep(6, "a"));
             Edge.answers("a by " + n, x, y -> y.reach(1, m, false), 1);
         }
+        SumRewriter back = Make.rules(Make.with(Make.BASE, "a", "m(a,a)"), "a=b", "b=a");
+        int[] both = {1, 2, 3, 3, 3};
+        for (int n = 0; n <= 4; n++) {
+            int m = n;
+            Edge.answers("there and back by " + n, back, y -> y.reach(0, m, false), Math.min(2, n + 1));
+            Edge.answers("both there and back by " + n, back, y -> y.reach(1, m, false), both[n]);
+        }
         Edge.outside("n", EdgesOfSteps::steps4, 5, (y, n) -> y.reach(0, n, false), Edge.ARGUMENT);
         Edge.outside("n, normal", EdgesOfSteps::steps4, 5, (y, n) -> y.reach(0, n, true), Edge.ARGUMENT);
         Edge.outside("n of the k-th", EdgesOfSteps::steps4, 5, (y, n) -> y.reached(0, n, false, 0), Edge.ARGUMENT);
@@ -514,6 +521,7 @@ public final class EdgesOfSteps {
         for (String term : new String[] {"x", "a", "e", "s(a)", "m(a,b)", "plus(a,b)", "un(a,b)"}) {
             could(Make.BASE, term, 3, "plus(x,y)=a", "plus(s(a),s(b),s(e))=a");
         }
+        could("free e 0;ac p unit e;free a 0;free s 1;var x;", "s(a)", 1, "p(x,a)=a", "e=a");
     }
 
     private static void couldOfSumsWithout() {

@@ -319,6 +319,9 @@ public final class EdgesOfTexts {
         wrongSignature("free a 10;", 7);
         wrongSignature("free a 00;", 7);
         wrongSignature("free a 03;", 7);
+        wrongSignature("free a 09;", 7);
+        wrongSignature("free a 39;", 7);
+        wrongSignature("free a 30;", 7);
         wrongSignature("free a " + "1".repeat(393), 7);
         wrongSignature("free a 1 1;", 9);
         wrongSignature("0", 0);
@@ -332,6 +335,13 @@ public final class EdgesOfTexts {
         wrongTerm("plus[a,b]", 4);
         wrongTerm("s(0)", 2);
         wrongTerm("a0", 1);
+        for (String sign : new String[] {"\u0000", "\u0001", "\u0080", "\u00ff"}) {
+            wrongSignature("var x;" + sign, 6);
+            wrongSignature(sign, 0);
+            wrongTerm("s(a)" + sign, 4);
+            wrongTerm("s(" + sign, 2);
+            wrongRule("s(x)=x" + sign, 6);
+        }
         wrongTerm("plus(a,b)=a", 9);
         wrongRule("=a", 0);
         wrongRule("s(x)==x", 5);
