@@ -1303,7 +1303,7 @@ public final class SumRewriter {
             int b = two;
             for (int deep = 0; deep <= SIZE && a != b; deep++) {
                 if (a < 0 || b < 0 || a >= NODES || b >= NODES) {
-                    return Integer.compare(a, b);
+                    return a < b ? -1 : 1;
                 }
                 if (codes[a] != codes[b]) {
                     return codes[a] < codes[b] ? -1 : 1;

@@ -37,10 +37,10 @@ public final class RandomRuns {
     }
 
     private void run() {
-        text(0, SIGNATURES[random.nextInt(SIGNATURES.length)]);
+        text(0, random.nextInt(3) == 0 ? anySignature() : SIGNATURES[random.nextInt(SIGNATURES.length)]);
         int rules = random.nextInt(6);
         for (int i = 0; i < 2 + random.nextInt(4); i++) {
-            text(1, make(1 + random.nextInt(size), 3, 3));
+            text(1, make(1 + random.nextInt(size), 3 + random.nextInt(3), 3));
         }
         for (int i = 0; i < 2 + random.nextInt(5); i++) {
             text(1, make(1 + random.nextInt(2 * size), 3, 12));
@@ -68,10 +68,51 @@ public final class RandomRuns {
         }
     }
 
+    /** Up to ten operators of any kinds, the first of no parts, and up to five variables, told one among another. */
+    private String anySignature() {
+        List<String> constants = new ArrayList<>();
+        List<String> names = new ArrayList<>(List.of("free", "c", "ac", "unit", "var"));
+        StringBuilder text = new StringBuilder();
+        int operators = 1 + random.nextInt(10);
+        int variables = random.nextInt(6);
+        while (operators + variables > 0) {
+            String name = anyName(names);
+            int kind = constants.isEmpty() ? 0 : random.nextInt(5);
+            if (random.nextInt(operators + variables) < variables) {
+                text.append("var ").append(name);
+                variables--;
+            } else {
+                int parts = constants.isEmpty() || random.nextInt(3) == 0 ? 0 : random.nextInt(4);
+                String unit = constants.isEmpty() ? "" : " unit " + constants.get(random.nextInt(constants.size()));
+                text.append(kind < 2 ? "free " + name + " " + parts : kind == 2 ? "c " + name
+                        : "ac " + name + (random.nextInt(3) == 0 ? "" : unit));
+                if (kind < 2 && parts == 0) {
+                    constants.add(name);
+                }
+                operators--;
+            }
+            text.append("; ");
+        }
+        return text.toString();
+    }
+
+    private String anyName(List<String> taken) {
+        String name = "free";
+        while (taken.contains(name)) {
+            StringBuilder letters = new StringBuilder();
+            for (int i = random.nextInt(random.nextInt(6) + 1); i >= 0; i--) {
+                letters.append((char) ('a' + random.nextInt(26)));
+            }
+            name = letters.toString();
+        }
+        taken.add(name);
+        return name;
+    }
+
     /** The text of a term that has variables where a given one has something, or some parts of a sum. */
     private String loosen(Model.T t, int depth) {
         if (!model.variables.isEmpty() && random.nextInt(depth == 0 ? 20 : 3) == 0) {
-            return model.variables.get(random.nextInt(Math.min(4, model.variables.size())));
+            return model.variables.get(random.nextInt(model.variables.size()));
         }
         if (t.variable >= 0 || t.parts.isEmpty()) {
             return model.spell(t);
@@ -148,7 +189,7 @@ public final class RandomRuns {
     /** A term's text with some n names in it, a variable in one of so many. */
     private String make(int n, int vars, int seldom) {
         int some = Math.min(vars, model.variables.size());
-        if (model.names.isEmpty()) {
+        if (!model.arities.contains(0)) {
             return "a";
         }
         if (n <= 1) {
